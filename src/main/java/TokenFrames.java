@@ -5,19 +5,13 @@
 public final class TokenFrames {
     public static final int NONE = -1;
 
-    private static final int MOST_BYTES = 1500;
     private static final int MOST_FED = 16;
     private static final int RUN_COUNTS = 4;
     private static final int COUNT_DEFINITIONS = 4;
     private static final int COUNT_BYTES = 5;
 
-    private final int[] tape = new int[MOST_BYTES];
-    private int bytes;
-    private Program program = new Program();
-    // A text with a fault must leave the definitions alone, so read fills this one and then they swap.
-    private Program spare = new Program();
-    private final Reader reader = new Reader(tape, spare);
-    private final Machine machine = new Machine(program);
+    private final Reader reader = new Reader();
+    private final Machine machine = new Machine();
     private final int[] latestCounts = new int[RUN_COUNTS];
     private int latestValue;
 
@@ -29,38 +23,35 @@ public final class TokenFrames {
         if (n < 1 || n > MOST_FED) {
             throw new IllegalArgumentException();
         }
-        if (bytes + n > MOST_BYTES) {
+        if (n > reader.tape.room()) {
             throw new UnsupportedOperationException();
         }
         for (int i = 0; i < n; i++) {
             int word = i < 4 ? a : i < 8 ? b : i < 12 ? c : d;
-            tape[bytes] = word >>> (24 - 8 * (i % 4)) & 255;
-            bytes++;
+            reader.tape.add(word >>> (24 - 8 * (i % 4)) & 255);
         }
-        return bytes;
+        return reader.tape.length;
     }
 
     public int read() {
-        int fault = reader.readText(bytes, spare);
-        bytes = 0;
+        int fault = reader.readText();
+        reader.tape.makeEmpty();
         if (fault != NONE) {
             return -1 - fault;
         }
-        Program former = program;
-        program = spare;
-        spare = former;
-        return program.definitions;
+        machine.program = reader.exchangeFor(machine.program);
+        return machine.program.definitions;
     }
 
     public int run(int a, int b, int calls, int order)
             throws IllegalStateException, IllegalArgumentException {
-        if (program.definitions == 0) {
+        if (machine.program.definitions == 0) {
             throw new IllegalStateException();
         }
         if (calls < 1 || calls > Machine.MOST_CALLS) {
             throw new IllegalArgumentException();
         }
-        machine.prepare(program, a, b, calls, order);
+        machine.prepare(a, b, calls, order);
         int outcome = machine.workOutAll();
         forgetRun();
         if (outcome != Machine.TOO_MANY_CALLS) {
@@ -82,21 +73,21 @@ public final class TokenFrames {
             throw new IndexOutOfBoundsException();
         }
         if (what == COUNT_BYTES) {
-            return bytes;
+            return reader.tape.length;
         }
-        return what == COUNT_DEFINITIONS ? program.definitions : latestCounts[what];
+        return what == COUNT_DEFINITIONS ? machine.program.definitions : latestCounts[what];
     }
 
     public int definition(int k, int what) throws IndexOutOfBoundsException {
-        if (k < 0 || k >= program.definitions || what < 0 || what > 1) {
+        if (k < 0 || k >= machine.program.definitions || what < 0 || what > 1) {
             throw new IndexOutOfBoundsException();
         }
-        return what == 0 ? program.arguments[k] : program.parts[k];
+        return what == 0 ? machine.program.arguments[k] : machine.program.parts[k];
     }
 
     public void clear() {
-        program.definitions = 0;
-        bytes = 0;
+        machine.program.definitions = 0;
+        reader.tape.makeEmpty();
         forgetRun();
     }
 
@@ -107,8 +98,8 @@ public final class TokenFrames {
         }
     }
 
-    /** The tokens on the tape, one at a time. */
-    private static final class Tokens {
+    /** The bytes that were fed, and the tokens that they are, one at a time. */
+    private static final class Tape {
         // A sign's kind is its own byte, and all of those lie above these.
         static final int END = 0;
         static final int UNKNOWN = 1;
@@ -121,10 +112,11 @@ public final class TokenFrames {
         static final int IN = 8;
         static final int MAKE = 9;
 
+        private static final int MOST_BYTES = 1500;
         private static final String SIGNS = "(),;[]=<>+-*/%";
         private static final int MOST_LETTERS = 8;
         private static final long MOST_NUMBER = 2147483647L;
-        // The words as eight letters at most fit into a long, a byte each.
+        // Eight letters fit into a long, a byte each; so names are kept, and these are the words.
         private static final long WORD_IF = 0x6966L;
         private static final long WORD_THEN = 0x7468656eL;
         private static final long WORD_ELSE = 0x656c7365L;
@@ -132,53 +124,64 @@ public final class TokenFrames {
         private static final long WORD_IN = 0x696eL;
         private static final long WORD_MAKE = 0x6d616b65L;
 
-        private final int[] tape;
-        private int length;
+        private final int[] bytes = new int[MOST_BYTES];
         private int next;
+        int length;
+        // The token that is due: what it is, where it begins, and its letters or its number.
         int kind;
         int place;
         long name;
         int number;
 
-        Tokens(int[] tape) {
-            this.tape = tape;
+        int room() {
+            return MOST_BYTES - length;
         }
 
-        void goToFirst(int bytes) {
-            length = Math.min(bytes, tape.length);
+        void add(int code) {
+            if (length < MOST_BYTES) {
+                bytes[length] = code;
+                length++;
+            }
+        }
+
+        void makeEmpty() {
+            length = 0;
+        }
+
+        void goToFirst() {
             next = 0;
             advance();
         }
 
         void advance() {
-            while (next < length && isBlank(tape[next])) {
+            while (next < length && isBlank(bytes[next])) {
                 next++;
             }
             place = next;
             if (next >= length) {
                 kind = END;
-            } else if (isLetter(tape[next]) || isDigit(tape[next])) {
+            } else if (isLetter(bytes[next]) || isDigit(bytes[next])) {
                 takeRow();
             } else {
-                kind = SIGNS.indexOf((char) tape[next]) >= 0 ? tape[next] : UNKNOWN;
+                kind = SIGNS.indexOf((char) bytes[next]) >= 0 ? bytes[next] : UNKNOWN;
                 next++;
             }
         }
 
         boolean isParenthesisNext() {
             int ahead = next;
-            while (ahead < length && isBlank(tape[ahead])) {
+            while (ahead < length && isBlank(bytes[ahead])) {
                 ahead++;
             }
-            return ahead < length && tape[ahead] == '(';
+            return ahead < length && bytes[ahead] == '(';
         }
 
         private void takeRow() {
             int letters = 0;
             long spelt = 0;
             long counted = 0;
-            while (next < length && (isLetter(tape[next]) || isDigit(tape[next]))) {
-                int code = tape[next];
+            while (next < length && (isLetter(bytes[next]) || isDigit(bytes[next]))) {
+                int code = bytes[next];
                 if (isLetter(code)) {
                     letters++;
                     spelt = spelt << 8 | code;
@@ -321,14 +324,14 @@ public final class TokenFrames {
         private static final int TERM_LEVEL = 3;
         private static final int NEGATE_LEVEL = 4;
 
-        private final Tokens tokens;
+        final Tape tape = new Tape();
         private final long[] definitionNames = new long[Program.MOST_DEFINITIONS];
         private final long[] argumentNames = new long[Program.MOST_ARGUMENTS];
         // The names that stand in LET, CALL and MAKE, and where.
         private final long[] partNames = new long[Program.ALL_PARTS];
         private final int[] partPlaces = new int[Program.ALL_PARTS];
         private final int[] open = new int[MOST_OPEN];
-        private Program program;
+        private Program program = new Program();
         private int current;
         private int opened;
         private int parentheses;
@@ -336,22 +339,24 @@ public final class TokenFrames {
         private int due;
         private int fault;
 
-        Reader(int[] tape, Program first) {
-            tokens = new Tokens(tape);
-            program = first;
-        }
-
         /** The place of the fault, or NONE. */
-        int readText(int bytes, Program into) {
-            program = into;
+        int readText() {
             program.definitions = 0;
             due = DEFINITION_NAME;
             fault = NONE;
-            tokens.goToFirst(bytes);
-            for (int i = 0; i < bytes && fault == NONE && tokens.kind != Tokens.END; i++) {
-                takeToken();
+            tape.goToFirst();
+            for (int i = 0; i < tape.length && fault == NONE && tape.kind != Tape.END; i++) {
+                if (due == BEGINNING) {
+                    takeBeginning();
+                } else if (due == CONTINUATION) {
+                    takeContinuation();
+                } else if (due < BEGINNING) {
+                    takeOfHead();
+                } else {
+                    takeOfCallMakeLet();
+                }
                 if (fault == NONE) {
-                    tokens.advance();
+                    tape.advance();
                 }
             }
             boolean mayEnd = due == DEFINITION_NAME && program.definitions > 0;
@@ -364,16 +369,11 @@ public final class TokenFrames {
             return fault;
         }
 
-        private void takeToken() {
-            if (due == BEGINNING) {
-                takeBeginning();
-            } else if (due == CONTINUATION) {
-                takeContinuation();
-            } else if (due < BEGINNING) {
-                takeOfHead();
-            } else {
-                takeOfCallMakeLet();
-            }
+        /** What was read; the next text goes into the other one, as a fault in it must not harm this one. */
+        Program exchangeFor(Program other) {
+            Program full = program;
+            program = other;
+            return full;
         }
 
         private void takeOfHead() {
@@ -385,7 +385,7 @@ public final class TokenFrames {
                     expect('(', FIRST_ARGUMENT);
                     break;
                 case FIRST_ARGUMENT:
-                    if (tokens.kind == ')') {
+                    if (tape.kind == ')') {
                         due = EQUALS;
                     } else {
                         takeArgumentName();
@@ -395,7 +395,7 @@ public final class TokenFrames {
                     takeArgumentName();
                     break;
                 case BEHIND_ARGUMENT:
-                    if (tokens.kind == ',') {
+                    if (tape.kind == ',') {
                         due = ARGUMENT;
                     } else {
                         expect(')', EQUALS);
@@ -409,12 +409,12 @@ public final class TokenFrames {
 
         private void takeDefinitionName() {
             current = program.definitions;
-            if (tokens.kind != Tokens.NAME || current == Program.MOST_DEFINITIONS
-                    || definitionNamed(tokens.name) != NONE) {
+            if (tape.kind != Tape.NAME || current == Program.MOST_DEFINITIONS
+                    || definitionNamed(tape.name) != NONE) {
                 fail();
                 return;
             }
-            definitionNames[current] = tokens.name;
+            definitionNames[current] = tape.name;
             program.arguments[current] = 0;
             program.parts[current] = 0;
             opened = 0;
@@ -424,34 +424,34 @@ public final class TokenFrames {
 
         private void takeArgumentName() {
             int told = program.arguments[current];
-            if (tokens.kind != Tokens.NAME || told == Program.MOST_ARGUMENTS
-                    || argumentNamed(tokens.name) != NONE) {
+            if (tape.kind != Tape.NAME || told == Program.MOST_ARGUMENTS
+                    || argumentNamed(tape.name) != NONE) {
                 fail();
                 return;
             }
-            argumentNames[told] = tokens.name;
+            argumentNames[told] = tape.name;
             program.arguments[current]++;
             due = BEHIND_ARGUMENT;
         }
 
         private void takeBeginning() {
             // Whatever may stand here begins a part, but for a parenthesis.
-            if (tokens.kind != '(' && program.isFull(current)) {
+            if (tape.kind != '(' && program.isFull(current)) {
                 fail();
                 return;
             }
-            switch (tokens.kind) {
-                case Tokens.NUMBER:
-                    addLeaf(Program.NUMBER, tokens.number);
+            switch (tape.kind) {
+                case Tape.NUMBER:
+                    addLeaf(Program.NUMBER, tape.number);
                     break;
-                case Tokens.NAME:
+                case Tape.NAME:
                     takeName();
                     break;
-                case Tokens.MAKE:
+                case Tape.MAKE:
                     beginPart(Program.MAKE, MAKE_OPENING);
                     break;
-                case Tokens.IF:
-                case Tokens.LET:
+                case Tape.IF:
+                case Tape.LET:
                     takeIfOrLet();
                     break;
                 case '-':
@@ -467,13 +467,13 @@ public final class TokenFrames {
         }
 
         private void takeName() {
-            if (tokens.isParenthesisNext()) {
+            if (tape.isParenthesisNext()) {
                 int call = beginPart(Program.CALL, CALL_OPENING);
                 keepName(call);
                 return;
             }
-            int let = letNamed(tokens.name);
-            int argument = argumentNamed(tokens.name);
+            int let = letNamed(tape.name);
+            int argument = argumentNamed(tape.name);
             if (let != NONE) {
                 addLeaf(Program.LET_NAME, let);
             } else if (argument != NONE) {
@@ -487,7 +487,7 @@ public final class TokenFrames {
             boolean isBehindSign = levelOf(innermost()) > 0;
             if (isBehindSign) {
                 fail();
-            } else if (tokens.kind == Tokens.IF) {
+            } else if (tape.kind == Tape.IF) {
                 beginPart(Program.IF, BEGINNING);
             } else {
                 beginPart(Program.LET, LET_NAME);
@@ -509,7 +509,7 @@ public final class TokenFrames {
                     expect('(', FIRST_OF_CALL);
                     break;
                 case FIRST_OF_CALL:
-                    if (tokens.kind == ')') {
+                    if (tape.kind == ')') {
                         end();
                     } else {
                         takeBeginning();
@@ -520,10 +520,10 @@ public final class TokenFrames {
                     break;
                 case MAKE_NAME:
                     keepName(innermost());
-                    expect(Tokens.NAME, BEHIND_MAKE_NAME);
+                    expect(Tape.NAME, BEHIND_MAKE_NAME);
                     break;
                 case BEHIND_MAKE_NAME:
-                    if (tokens.kind == ')') {
+                    if (tape.kind == ')') {
                         end();
                     } else {
                         expect(',', BEGINNING);
@@ -531,7 +531,7 @@ public final class TokenFrames {
                     break;
                 case LET_NAME:
                     keepName(innermost());
-                    expect(Tokens.NAME, LET_EQUALS);
+                    expect(Tape.NAME, LET_EQUALS);
                     break;
                 default:
                     expect('=', BEGINNING);
@@ -540,10 +540,10 @@ public final class TokenFrames {
         }
 
         private void takeContinuation() {
-            int level = levelOfSign(tokens.kind);
+            int level = levelOfSign(tape.kind);
             if (level > 0) {
                 takeSign(level);
-            } else if (tokens.kind != '[') {
+            } else if (tape.kind != '[') {
                 endExpression();
             } else if (program.isFull(current)) {
                 fail();
@@ -560,7 +560,7 @@ public final class TokenFrames {
             if (isSecondComparison || program.isFull(current)) {
                 fail();
             } else {
-                beginPartBehind(tokens.kind);
+                beginPartBehind(tape.kind);
             }
         }
 
@@ -595,12 +595,12 @@ public final class TokenFrames {
             int kind = program.kind[part];
             boolean isSize = kind == Program.MAKE && program.children[part] == 0;
             boolean isInList = kind == Program.CALL || kind == Program.MAKE && !isSize;
-            if (isInList && tokens.kind == ')' || kind == Program.FETCH && tokens.kind == ']') {
+            if (isInList && tape.kind == ')' || kind == Program.FETCH && tape.kind == ']') {
                 endWithLatest();
-            } else if (isSize && tokens.kind == ',') {
+            } else if (isSize && tape.kind == ',') {
                 program.attach(part, latest);
                 due = MAKE_NAME;
-            } else if (isInList && tokens.kind == ',' || tokens.kind == wordBehind(part)) {
+            } else if (isInList && tape.kind == ',' || tape.kind == wordBehind(part)) {
                 program.attach(part, latest);
                 due = BEGINNING;
             } else {
@@ -611,10 +611,10 @@ public final class TokenFrames {
         /** The word that goes on with an if or a let, or NONE. */
         private int wordBehind(int part) {
             if (program.kind[part] == Program.LET) {
-                return Tokens.IN;
+                return Tape.IN;
             }
             if (program.kind[part] == Program.IF) {
-                return program.children[part] == 0 ? Tokens.THEN : Tokens.ELSE;
+                return program.children[part] == 0 ? Tape.THEN : Tape.ELSE;
             }
             return NONE;
         }
@@ -699,8 +699,8 @@ public final class TokenFrames {
 
         private void keepName(int part) {
             if (part >= 0) {
-                partNames[part] = tokens.name;
-                partPlaces[part] = tokens.place;
+                partNames[part] = tape.name;
+                partPlaces[part] = tape.place;
             }
         }
 
@@ -757,7 +757,7 @@ public final class TokenFrames {
         }
 
         private void expect(int kind, int dueNext) {
-            if (tokens.kind == kind) {
+            if (tape.kind == kind) {
                 due = dueNext;
             } else {
                 fail();
@@ -765,7 +765,7 @@ public final class TokenFrames {
         }
 
         private void fail() {
-            fault = tokens.place;
+            fault = tape.place;
         }
     }
 
@@ -921,11 +921,13 @@ public final class TokenFrames {
         private static final int MOST_LOOKS = 1000000;
 
         private final Slots slots = new Slots();
+        // For the slot of a CALL, the call that it is.
         private final int[] made = new int[Slots.MOST_SLOTS];
         private final int[] definitionOf = new int[MOST_CALLS];
+        // The slot of the CALL or MAKE that a call comes from, and which cell it is; NONE for no such.
         private final int[] makerOf = new int[MOST_CALLS];
         private final int[] cellOf = new int[MOST_CALLS];
-        private Program program;
+        Program program = new Program();
         private int firstTold;
         private int secondTold;
         private int mostCalls;
@@ -933,12 +935,7 @@ public final class TokenFrames {
         int calls;
         int cells;
 
-        Machine(Program first) {
-            program = first;
-        }
-
-        void prepare(Program toRun, int a, int b, int most, int order) {
-            program = toRun;
+        void prepare(int a, int b, int most, int order) {
             firstTold = a;
             secondTold = b;
             mostCalls = Math.min(most, MOST_CALLS);

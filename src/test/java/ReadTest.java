@@ -9,6 +9,7 @@ public final class ReadTest {
         tellsLimits();
         tellsSixtyFirstPart();
         tellsCalls();
+        takesTheDeepest();
         keepsDefinitionsBefore();
         Check.end();
     }
@@ -39,6 +40,9 @@ public final class ReadTest {
         Check.faultAt(4, "m()=4294967297;");
         Check.faultAt(4, "m()=a1;");
         Check.faultAt(4, "m()=1a;");
+        Check.faultAt(5, "m()=-a1;");
+        Check.faultAt(5, "m()=(1a);");
+        Check.faultAt(6, "m()=1+99999999999;");
         Check.faultAt(0, "m1()=1;");
         Check.faultAt(0, "abcdefghi()=1;");
         Check.faultAt(2, "m(abcdefghi)=1;");
@@ -172,6 +176,7 @@ public final class ReadTest {
         Check.faultAt(24, "m()=" + Check.many(21, "(") + "1" + Check.many(21, ")") + ";");
         Check.reads("m()=" + Check.many(20, "(") + "1" + Check.many(20, ")")
                 + "+" + Check.many(20, "(") + "1" + Check.many(20, ")") + ";", 1);
+        Check.reads("m()=" + Check.many(25, "(1)+") + "1;", 1);
         // Those of calls, makes and fetches are no ( e ), but what is in them is in others.
         Check.reads("m(a)=" + Check.many(25, "m(") + "1" + Check.many(25, ")") + ";", 1);
         Check.reads("m(a)=" + Check.many(20, "(m(") + "1" + Check.many(20, "))") + ";", 1);
@@ -214,6 +219,28 @@ public final class ReadTest {
         Check.equal("call", partsOf("m(a)=m(1);"), 2);
         Check.equal("make", partsOf("m(a,b,c)=make(1,m,2);"), 3);
         Check.equal("fetch", partsOf("m(a)=a[1][2];"), 5);
+    }
+
+    /** As much as can be open at once, also behind faults that left much open. */
+    private static void takesTheDeepest() {
+        String deep = "m()=" + Check.many(20, "(") + Check.many(59, "-") + "1";
+        TokenFrames x = new TokenFrames();
+        for (int i = 0; i < 20; i++) {
+            Check.equal("the deepest without an end", Check.read(x, deep), -1 - deep.length());
+        }
+        Check.equal("the deepest", Check.read(x, deep + Check.many(20, ")") + ";"), 1);
+        Check.equal("run", x.run(0, 0, 1, 0), 0);
+        Check.equal("value", x.value(), -1);
+        String calls = "m(a)=" + Check.many(20, "(m(") + Check.many(39, "m(");
+        Check.reads(calls + "1" + Check.many(39, ")") + Check.many(20, "))") + ";", 1);
+        StringBuilder twelve = new StringBuilder();
+        for (char c = 'a'; c < 'm'; c++) {
+            twelve.append(c).append("()=").append(Check.many(59, "-")).append("1;");
+        }
+        Check.reads(twelve.toString(), 12);
+        String without = twelve.substring(0, twelve.length() - 2);
+        Check.faultAt(without.length() + 1, without + "--1;");
+        Check.faultAt(without.length() + 1, without + "1+1;");
     }
 
     private static int partsOf(String text) {
