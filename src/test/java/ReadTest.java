@@ -141,6 +141,11 @@ public final class ReadTest {
         Check.faultAt(8, "m()=1   ");
         Check.reads("m()=1;   ", 1);
         Check.faultAt(4, "m()=q");
+        // What an earlier text left behind the end does not count.
+        TokenFrames x = new TokenFrames();
+        Check.equal("a call of none", Check.read(x, "m()=q();"), -5);
+        Check.equal("a name of none, shorter", Check.read(x, "m()=q"), -5);
+        Check.equal("no end, shorter", Check.read(x, "m()=1"), -6);
     }
 
     private static void tellsNames() {
