@@ -321,6 +321,9 @@ public final class TextEdgesTest {
         Check.fault("m(a)=" + Check.many(20, "(m(") + "^(1)" + Check.many(20, "))") + ";");
         Check.fault("m(a)=" + Check.many(20, "(a[") + "^(1)" + Check.many(20, "])") + ";");
         Check.fault("m(a)=" + Check.many(20, "(-") + "^(1)" + Check.many(20, ")") + ";");
+        // Also where as many parts as there may be are begun and not ended.
+        Check.fault(twenty + Check.many(60, "-") + "^(1" + Check.many(21, ")") + ";");
+        Check.fault(twenty.substring(0, twenty.length() - 1) + Check.many(60, "-") + "(^1" + Check.many(20, ")") + ";");
     }
 
     private static void parenthesesThatAreNotCounted() {
