@@ -191,8 +191,8 @@ public final class CallEdgesTest {
 
     private static void runRefusesWrongCalls() {
         Check.sentence("IllegalArgumentException: calls are not 1 .. 300");
-        TokenFrames x = used();
         for (int calls : new int[] {LEAST, -300, -1, 0, 301, 302, 556, 65537, MOST}) {
+            TokenFrames x = used();
             Check.failsInVain(x, "run with " + calls, IllegalArgumentException.class, () -> x.run(1, 0, calls, 0));
             Check.failsInVain(x, "run with " + calls, IllegalArgumentException.class, () -> x.run(1, 0, calls, 1));
         }
@@ -205,14 +205,16 @@ public final class CallEdgesTest {
 
     private static void runTakesEveryOrder() {
         Check.sentence("nothing that is told hangs on it");
-        TokenFrames x = Check.of("m(a,b)=let t=make(a,c,b)in t[a-1]+f(t[b])+f(9);f(n)=if n<2 then n else f(n/2)+f(n/3);"
-                + "c(i,s,b)=if i<b then if i=1 then s[1]else i*i else s[i-1]+s[i-b];");
+        String text = "m(a,b)=let t=make(a,c,b)in t[a-1]+f(t[b])+f(9);f(n)=if n<2 then n else f(n/2)+f(n/3);"
+                + "c(i,s,b)=if i<b then if i=1 then s[1]else i*i else s[i-1]+s[i-b];";
         for (int a : new int[] {5, 9, 17}) {
             for (int b : new int[] {0, 1, 3}) {
-                int outcome = x.run(a, b, 90, 0);
-                String due = Check.stateOf(x);
+                TokenFrames oldest = Check.of(text);
+                int outcome = oldest.run(a, b, 90, 0);
+                String due = Check.stateOf(oldest);
                 for (int i = -40; i < 40; i++) {
                     int order = i % 8 == 0 ? i * 53687091 : i;
+                    TokenFrames x = Check.of(text);
                     Check.equal("run in the order " + order, x.run(a, b, 90, order), outcome);
                     Check.same("what is told in the order " + order, Check.stateOf(x), due);
                 }
@@ -268,14 +270,15 @@ public final class CallEdgesTest {
 
     private static void definitionRefusesOthers() {
         Check.sentence("IndexOutOfBoundsException: also no such what");
-        TokenFrames x = used();
         for (int what : new int[] {LEAST, -1, 2, 3, 256, MOST}) {
+            TokenFrames x = used();
             for (int k : new int[] {0, 1, 2, 3, -1}) {
                 Check.failsInVain(x, "definition(" + k + ", " + what + ")", IndexOutOfBoundsException.class,
                         () -> x.definition(k, what));
             }
         }
         for (int k : new int[] {LEAST, -1, 3, 4, 11, 12, 256, MOST}) {
+            TokenFrames x = used();
             Check.failsInVain(x, "definition(" + k + ", 0)", IndexOutOfBoundsException.class, () -> x.definition(k, 0));
             Check.failsInVain(x, "definition(" + k + ", 1)", IndexOutOfBoundsException.class, () -> x.definition(k, 1));
         }

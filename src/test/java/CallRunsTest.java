@@ -4,11 +4,15 @@ import java.util.Random;
 public final class CallRunsTest {
     private static final int[] EDGES = {Integer.MIN_VALUE, -1, 0, 1, 2, 15, 16, 17, 299, 300, 301, Integer.MAX_VALUE};
 
+    // Nothing is promised about an object behind so many.
+    private static final int MOST_CALLS = 512;
+
     private final TokenFrames x = new TokenFrames();
     private final Model model = new Model();
     private final StringBuilder tape = new StringBuilder();
     private final Random random;
     private final long seed;
+    private int made;
     private String pending = "";
     private int value;
     private int[] counts = new int[4];
@@ -19,11 +23,11 @@ public final class CallRunsTest {
     }
 
     public static void main(String[] args) {
-        int runs = args.length > 0 ? Integer.parseInt(args[0]) : 200;
+        int runs = args.length > 0 ? Integer.parseInt(args[0]) : 800;
         long start = args.length > 1 ? Long.parseLong(args[1]) : 1;
         for (long seed = start; seed < start + runs; seed++) {
             CallRunsTest run = new CallRunsTest(seed);
-            for (int i = 0; i < 512; i++) {
+            while (run.made < MOST_CALLS) {
                 run.call();
             }
         }
@@ -38,7 +42,8 @@ public final class CallRunsTest {
         int answer();
     }
 
-    private static String told(Call call) {
+    private String told(Call call) {
+        made++;
         try {
             return "" + call.answer();
         } catch (RuntimeException e) {
@@ -99,7 +104,7 @@ public final class CallRunsTest {
                 }
                 pending = pending.substring(Math.min(n, pending.length()));
             }
-        } while (!pending.isEmpty() && random.nextInt(40) != 0);
+        } while (!pending.isEmpty() && made < MOST_CALLS && random.nextInt(40) != 0);
     }
 
     private void read() {
@@ -143,6 +148,7 @@ public final class CallRunsTest {
     }
 
     private void clear() {
+        made++;
         x.clear();
         tape.setLength(0);
         model.definitions.clear();

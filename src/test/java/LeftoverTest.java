@@ -193,7 +193,7 @@ public final class LeftoverTest {
         String[] texts = {MACHINE, "m(a,b)=make(40,c)[b];c(i,s)=if i then s[i-1]+1 else 3;",
             "m(a,b)=f(a,f(b,make(a,c)));f(a,b)=if a then b else a;c(i,s)=i;", "m(a,b)=make(2,c)[1];c(i,s)=s[i];"};
         TokenFrames x = new TokenFrames();
-        for (int i = 0; i < 24; i++) {
+        for (int i = 0; i < 12; i++) {
             String text = texts[i * 7 % 4];
             int a = i % 5 * 3 - 3;
             int b = i % 3 == 0 ? 0 : i;
